@@ -226,8 +226,16 @@ public final class FaultsTest {
         Check.fault(x, 1, "4294967296", TypedText.RANGE, 9);
         Check.fault(x, 1, "18446744073709551616", TypedText.RANGE, 19);
         Check.fault(x, 1, "184467440737095516.16", TypedText.RANGE, 20);
+        x = types();
+        Check.fault(x, 0, " ".repeat(94) + "99", TypedText.OK, -1);
+        Check.fault(x, 0, " ".repeat(93) + "100", TypedText.RANGE, 95);
+        Check.fault(x, 0, " ".repeat(94) + "1e", TypedText.SYNTAX, 96);
+        x = types();
         Check.fault(x, 0, "100", TypedText.RANGE, 2);
         Check.fault(x, 0, "99.0e0", TypedText.OK, -1);
+        // What stood in the text before it was wiped is gone.
+        Check.fault(x, 0, "1e1", TypedText.OK, -1);
+        Check.nodes(x, 0, "1", "0/1/-1/-1");
         Check.fault(x, 0, "-1", TypedText.RANGE, 1);
         Check.fault(x, 4, "[100 ,1]", TypedText.RANGE, 3);
         x = types();

@@ -94,6 +94,7 @@ public final class PrintTest {
         Check.prints(x, 0, "{ \"C\" : 30e-1 , \"A\":{}, \"E\":t}", "{\"C\":3,\"E\":t,\"A\":{}}");
         Check.prints(x, 5, "[{},{},10e-1,-0]", "[{},{},1,0]");
         Check.prints(x, 6, "[{\"C\":5},{\"C\":3,\"E\":f}]", "[{\"C\":5},{\"C\":3,\"E\":f}]");
+        Check.prints(x, 6, "[{\"C\":3,\"E\":f},{\"C\":5}]", "[{\"C\":3,\"E\":f},{\"C\":5}]");
     }
 
     private static TypedText longNumbers() {

@@ -102,6 +102,20 @@ public final class TypesTest {
         }
         Check.same("choice anew", true, x.members(2, 5));
         Check.fault(x, 2, "{\"F\":0}", TypedText.RANGE, 5);
+        Check.same("last slot", true, x.members(11, 5));
+        Check.same("last slot's last tag", true, x.tag(11, 5, 0));
+        Check.same("slot before the last", true, x.members(10, 5));
+        Check.same("first tag of the last slot", true, x.tag(11, 0, 0));
+        Check.same("slot before the last anew", true, x.members(10, 5));
+        Check.fault(x, 11, "{\"F\":0}", TypedText.OK, -1);
+        Check.fault(x, 11, "{\"F\":5}", TypedText.OK, -1);
+        Check.fault(x, 10, "{\"F\":6}", TypedText.RANGE, 5);
+        Check.fault(x, 11, "{\"F\":6}", TypedText.RANGE, 5);
+        Check.same("last slot as a record", true, x.members(11, -1));
+        for (int name = 0; name < 4; name++) {
+            Check.same("last slot's field " + name, true, x.field(11, name, 1, true));
+        }
+        Check.fault(x, 11, "{\"A\":1,\"B\":1,\"C\":1,\"D\":1}", TypedText.OK, -1);
     }
 
     private static void field() {

@@ -1,0 +1,746 @@
+import java.math.BigDecimal;
+import java.math.BigInteger;
+import java.util.ArrayList;
+import java.util.Arrays;
+import java.util.List;
+import java.util.Random;
+import java.util.regex.Matcher;
+import java.util.regex.Pattern;
+
+/**
+ * Promises 10 to 15 on made-up types and texts, against a second reading of the document in another manner:
+ * it descends through the text, gathers every fault that it meets, and takes the least of them at the end.
+ * The made-up ones are the same in every run.
+ */
+public final class ModelTest {
+    private static final int ROUNDS = 60000;
+    private static final int UNTYPED = -2;
+    private static final Pattern NUMBER = Pattern.compile("-?(0|[1-9][0-9]*)(\\.[0-9]+)?(e[-+]?[0-9]+)?");
+
+    private static final char NUM = 'N', TXT = 'T', FLAG = 'F', LIST = 'L', REC = 'R', CHOICE = 'C', POSS = 'P', SHARED = 'S', NO = '-';
+
+    private static final class Type {
+        char kind = NO;
+        int a;
+        int least;
+        int most;
+        List<int[]> fields = new ArrayList<>();
+        int[] tags = {-1, -1, -1, -1, -1, -1};
+    }
+
+    private static final class Node {
+        int kind;
+        int value;
+        int parent;
+        int name;
+        String form;
+        List<Integer> order;
+        int tag = -1;
+        int choiceName;
+        boolean isList;
+    }
+
+    private static final class Cut extends RuntimeException {
+        private static final long serialVersionUID = 1L;
+    }
+
+    private final Random random;
+    private final Type[] types = new Type[12];
+    private String s = "";
+    private int p = 0;
+    private final List<int[]> faults = new ArrayList<>();
+    private final List<Node> nodes = new ArrayList<>();
+    private final int[] complete = new int[12];
+
+    private ModelTest(long seed) {
+        random = new Random(seed);
+    }
+
+    public static void main(String[] args) {
+        int rounds = args.length > 0 ? Integer.parseInt(args[0]) : ROUNDS;
+        int[] seen = new int[9];
+        for (int k = 0; k < rounds; k++) {
+            seen[new ModelTest(k).round()]++;
+        }
+        System.out.println("how often each code was due: " + Arrays.toString(seen));
+        for (int code = 0; code < 9; code++) {
+            Check.same("code " + code + " was due now and then", true, seen[code] > 0);
+        }
+        Check.end();
+    }
+
+    // ---- one round ----
+
+    private int round() {
+        TypedText x = new TypedText();
+        makeTypes(x);
+        int slot = random.nextInt(12);
+        for (int k = 0; k < 5 && types[slot].kind == NO; k++) {
+            slot = random.nextInt(12);
+        }
+        s = makeText(slot);
+        for (char sign : s.toCharArray()) {
+            x.put(Check.SIGNS.indexOf(sign));
+        }
+        read(slot);
+        int[] least = null;
+        for (int[] fault : faults) {
+            if (least == null || fault[0] < least[0] || fault[0] == least[0] && fault[1] < least[1]) {
+                least = fault;
+            }
+        }
+        String what = " of " + s + " in slot " + slot + " of " + told();
+        int code = least == null ? 0 : least[1];
+        Check.same("bind" + what, code, x.bind(slot));
+        Check.same("place" + what, least == null ? -1 : least[0], x.place());
+        Check.same("nodes" + what, least == null ? told(nodes) : "", Check.nodesOf(x));
+        String print = least == null ? form(0) : "";
+        Check.same("print" + what, print.length(), x.print());
+        Check.same("printed" + what, print.substring(0, Math.min(192, print.length())), Check.printedOf(x));
+        return code;
+    }
+
+    private String told() {
+        StringBuilder all = new StringBuilder();
+        for (Type t : types) {
+            all.append(t.kind).append(t.a).append('/').append(t.least).append('/').append(t.most);
+            for (int[] f : t.fields) {
+                all.append(Arrays.toString(f));
+            }
+            all.append(t.kind == CHOICE ? Arrays.toString(t.tags) : "").append("; ");
+        }
+        return all.toString();
+    }
+
+    private static String told(List<Node> nodes) {
+        StringBuilder all = new StringBuilder();
+        for (Node n : nodes) {
+            all.append(all.length() == 0 ? "" : " ");
+            all.append(n.kind).append('/').append(n.value).append('/').append(n.parent).append('/').append(n.name);
+        }
+        return all.toString();
+    }
+
+    // ---- types ----
+
+    private void makeTypes(TypedText x) {
+        String kinds = "NNTFLLLRRRCCPPSS";
+        for (int slot = 0; slot < 12; slot++) {
+            Type t = new Type();
+            types[slot] = t;
+            t.kind = random.nextInt(20) == 0 ? NO : kinds.charAt(random.nextInt(kinds.length()));
+            t.a = random.nextInt(12);
+            if (t.kind == NUM) {
+                t.a = random.nextInt(5);
+                int one = random.nextInt(4) == 0 ? random.nextInt() : random.nextInt(300) - 150;
+                int two = random.nextInt(4) == 0 ? random.nextInt() : random.nextInt(300) - 150;
+                boolean wide = random.nextInt(4) == 0;
+                t.least = wide ? Integer.MIN_VALUE : Math.min(one, two);
+                t.most = wide ? Integer.MAX_VALUE : Math.max(one, two);
+                x.simple(slot, 0, t.a, t.least, t.most);
+            } else if (t.kind == TXT) {
+                t.a = random.nextInt(7);
+                x.simple(slot, 1, t.a, 0, 0);
+            } else if (t.kind == FLAG) {
+                x.simple(slot, 2, 0, 0, 0);
+            } else if (t.kind == LIST) {
+                t.least = random.nextInt(3) == 0 ? random.nextInt(3) : 0;
+                t.most = random.nextInt(3) == 0 ? t.least + random.nextInt(3) : 20;
+                x.list(slot, t.a, t.least, t.most);
+            } else if (t.kind == REC) {
+                x.members(slot, -1);
+            } else if (t.kind == CHOICE) {
+                t.a = random.nextInt(6);
+                x.members(slot, t.a);
+            }
+        }
+        for (int slot = 0; slot < 12; slot++) {
+            if (types[slot].kind == REC) {
+                addFields(x, slot);
+            } else if (types[slot].kind == CHOICE) {
+                addTags(x, slot);
+            } else if (types[slot].kind == POSS || types[slot].kind == SHARED) {
+                boolean shared = types[slot].kind == SHARED;
+                types[slot].a = anySlot(shared ? "R" : "NTFLRC");
+                x.wrap(slot, shared ? 1 : 0, types[slot].a);
+            }
+        }
+    }
+
+    /** Mostly a slot with a type of these kinds. */
+    private int anySlot(String kinds) {
+        int slot = random.nextInt(12);
+        for (int k = 0; k < 30 && kinds.indexOf(types[slot].kind) < 0; k++) {
+            slot = random.nextInt(12);
+        }
+        return random.nextInt(20) == 0 ? random.nextInt(12) : slot;
+    }
+
+    private void addFields(TypedText x, int slot) {
+        int count = random.nextInt(6);
+        for (int k = 0; k < count; k++) {
+            int name = random.nextInt(6);
+            int of = anySlot("NTFLRCPS");
+            boolean needed = random.nextInt(4) == 0;
+            boolean there = types[slot].fields.size() == 4;
+            for (int[] f : types[slot].fields) {
+                there |= f[0] == name;
+            }
+            Check.same("field", !there, x.field(slot, name, of, needed));
+            if (!there) {
+                types[slot].fields.add(new int[] {name, of, needed ? 1 : 0});
+            }
+        }
+    }
+
+    private void addTags(TypedText x, int slot) {
+        for (int k = 0; k < 5; k++) {
+            int tag = random.nextInt(6);
+            int of = anySlot("R");
+            types[slot].tags[tag] = of;
+            x.tag(slot, tag, of);
+        }
+    }
+
+    // ---- texts ----
+
+    private String makeText(int slot) {
+        String made = make(slot, 0);
+        for (int k = random.nextInt(4) - 1; k > 0; k--) {
+            made = spoil(made);
+        }
+        return made.length() > 96 ? made.substring(0, 96) : made;
+    }
+
+    private String spoil(String made) {
+        int where = random.nextInt(made.length() + 1);
+        String sign = "" + Check.SIGNS.charAt(random.nextInt(32));
+        String rest = made.substring(where);
+        switch (random.nextInt(4)) {
+            case 0:
+                return made.substring(0, where) + sign + rest;
+            case 1:
+                return made.substring(0, where) + sign + (rest.isEmpty() ? "" : rest.substring(1));
+            case 2:
+                return made.substring(0, where) + (rest.isEmpty() ? "" : rest.substring(1));
+            default:
+                return made.substring(0, where);
+        }
+    }
+
+    private String space() {
+        return random.nextInt(15) == 0 ? " " : "";
+    }
+
+    private String make(int slot, int level) {
+        return space() + makeBare(slot, level) + space();
+    }
+
+    private String makeBare(int slot, int level) {
+        Type t = types[slot];
+        char kind = t.kind;
+        if (random.nextInt(60) == 0) {
+            kind = "NTFLRCPS".charAt(random.nextInt(8));
+        }
+        if (level > 8) {
+            return "n";
+        }
+        switch (kind) {
+            case NUM:
+                return makeNumber(t);
+            case TXT:
+                return makeString(random.nextInt(Math.max(1, t.a % 8 + (random.nextInt(10) == 0 ? 2 : 1))));
+            case FLAG:
+                return random.nextBoolean() ? "t" : "f";
+            case LIST:
+                return makeList(t, level);
+            case REC:
+                return "{" + space() + makeMembers(t, -1, level) + "}";
+            case CHOICE:
+                return makeChoice(t, level);
+            case POSS:
+                return random.nextInt(level > 2 ? 2 : 4) == 0 ? "n" : makeBare(t.a, level + 1);
+            case SHARED:
+                return random.nextInt(2) == 0 ? makeSmall(random.nextInt(3)) : makeBare(t.a, level + 1);
+            default:
+                return "ntf1[{".substring(random.nextInt(6)).substring(0, 1);
+        }
+    }
+
+    private String makeSmall(int k) {
+        String[] ways = {"" + k, "" + k, "" + k, k + ".0", k + "0e-1", "-" + k, k + ".5", "0." + k + "e1", k + "e0"};
+        return ways[random.nextInt(ways.length)];
+    }
+
+    private String makeNumber(Type t) {
+        long span = (long) t.most - t.least + 1;
+        long units = t.least + Math.floorMod(random.nextLong(), Math.max(1, span));
+        if (random.nextInt(20) == 0) {
+            units = random.nextBoolean() ? t.least - 1L : t.most + 1L;
+        } else if (random.nextInt(5) == 0) {
+            units = random.nextBoolean() ? t.least : t.most;
+        }
+        BigDecimal exact = BigDecimal.valueOf(units, t.a % 5);
+        if (random.nextInt(20) == 0) {
+            exact = exact.add(BigDecimal.valueOf(1, 6));
+        }
+        int shift = random.nextInt(3) == 0 ? random.nextInt(21) - 10 : 0;
+        String digits = exact.movePointLeft(shift).toPlainString();
+        if (digits.indexOf('.') >= 0 && random.nextInt(2) == 0) {
+            digits += "0".repeat(random.nextInt(3));
+        }
+        if (digits.startsWith("0E") || digits.indexOf('E') >= 0) {
+            digits = "0";
+        }
+        String sign = shift < 0 ? "-" : random.nextBoolean() ? "+" : "";
+        boolean bare = shift == 0 && random.nextBoolean();
+        return bare ? digits : digits + "e" + sign + (random.nextInt(5) == 0 ? "0" : "") + Math.abs(shift);
+    }
+
+    private String makeString(int count) {
+        StringBuilder all = new StringBuilder("\"");
+        for (int k = 0; k < count; k++) {
+            char sign = Check.SIGNS.charAt(random.nextInt(32));
+            if (random.nextInt(4) == 0) {
+                sign = random.nextBoolean() ? '"' : '\\';
+            }
+            all.append(sign == '"' || sign == '\\' ? "\\" : "").append(sign);
+        }
+        return all.append('"').toString();
+    }
+
+    private String makeList(Type t, int level) {
+        int count = t.least + random.nextInt(level == 0 || random.nextInt(6) == 0 ? 20 : 4);
+        if (random.nextInt(10) != 0) {
+            count = Math.min(count, Math.max(t.most % 21, 1));
+        }
+        if (level > 4 && random.nextInt(3) > 0) {
+            count = t.least % 3;
+        }
+        StringBuilder all = new StringBuilder("[" + space());
+        for (int k = 0; k < count && all.length() < 100; k++) {
+            all.append(k == 0 ? "" : ",").append(make(t.a % 12, level + 1));
+        }
+        return all.append("]").toString();
+    }
+
+    private String makeChoice(Type t, int level) {
+        int tag = random.nextInt(6);
+        for (int k = 0; k < 20 && (t.tags[tag] < 0 || types[t.tags[tag]].kind != REC); k++) {
+            tag = random.nextInt(6);
+        }
+        if (random.nextInt(40) == 0) {
+            tag = random.nextInt(8);
+        }
+        String head = "{" + space() + "\"" + "ABCDEF".charAt(t.a % 6) + "\"" + space() + ":" + space();
+        String number = makeSmall(tag);
+        number = random.nextInt(3) > 0 ? "" + tag : number;
+        if (random.nextInt(30) == 0) {
+            return head + "}";
+        }
+        int of = tag < 6 ? t.tags[tag] : -1;
+        String rest = of < 0 ? "" : makeMembers(types[of], t.a % 6, level);
+        return head + number + space() + (rest.isEmpty() ? "" : ",") + rest + "}";
+    }
+
+    private String makeMembers(Type t, int but, int level) {
+        List<String> all = new ArrayList<>();
+        for (int[] f : t.fields) {
+            boolean left = f[2] == 1 ? random.nextInt(30) == 0 : random.nextInt(level > 3 ? 2 : 4) == 0;
+            if (f[0] == but ? random.nextInt(30) == 0 : !left) {
+                String name = "ABCDEF".substring(f[0], f[0] + 1);
+                if (random.nextInt(60) == 0) {
+                    name = makeString(random.nextInt(3)).replaceAll("^\"|\"$", "");
+                }
+                String member = space() + "\"" + name + "\"" + space() + ":" + make(f[1], level + 1);
+                all.add(all.isEmpty() ? 0 : random.nextInt(all.size() + 1), member);
+            }
+        }
+        if (!all.isEmpty() && random.nextInt(60) == 0) {
+            all.add(all.get(0));
+        }
+        return String.join(",", all);
+    }
+
+    // ---- the second reading ----
+
+    private void read(int slot) {
+        try {
+            value(slot, -1, -1, 0, false);
+            skip();
+            if (p < s.length()) {
+                syntax();
+            }
+        } catch (Cut cut) {
+            // The fault is among the others.
+        }
+    }
+
+    private void add(int place, int code) {
+        faults.add(new int[] {place, code});
+    }
+
+    private void syntax() {
+        add(p, TypedText.SYNTAX);
+        throw new Cut();
+    }
+
+    private void skip() {
+        while (p < s.length() && s.charAt(p) == ' ') {
+            p++;
+        }
+    }
+
+    private char look() {
+        skip();
+        if (p >= s.length()) {
+            syntax();
+        }
+        return s.charAt(p);
+    }
+
+    private void want(char sign) {
+        if (look() != sign) {
+            syntax();
+        }
+        p++;
+    }
+
+    private boolean undefined(Type t) {
+        if (t.kind == SHARED) {
+            return types[t.a].kind != REC;
+        }
+        if (t.kind == POSS) {
+            return "NTFLRC".indexOf(types[t.a].kind) < 0;
+        }
+        return t.kind == NO;
+    }
+
+    private static String beginsOf(char kind) {
+        switch (kind) {
+            case NUM:
+                return "-0123456789";
+            case TXT:
+                return "\"";
+            case FLAG:
+                return "tf";
+            case LIST:
+                return "[";
+            case REC:
+            case CHOICE:
+                return "{";
+            default:
+                return "";
+        }
+    }
+
+    private void value(int slot, int parent, int name, int depth, boolean excess) {
+        char c = look();
+        if ("ntf-0123456789\"[{".indexOf(c) < 0) {
+            syntax();
+        }
+        if (slot == UNTYPED) {
+            bare(c, depth);
+            return;
+        }
+        Type t = types[slot];
+        int before = faults.size();
+        if (undefined(t)) {
+            add(p, TypedText.UNDEFINED);
+        } else {
+            int inner = t.kind == POSS || t.kind == SHARED ? t.a : slot;
+            String begins = beginsOf(types[inner].kind) + (t.kind == POSS ? "n" : t.kind == SHARED ? "-0123456789" : "");
+            if (begins.indexOf(c) < 0) {
+                add(p, TypedText.TYPE);
+            }
+            if ("[{".indexOf(c) >= 0 && depth > 5) {
+                add(p, TypedText.DEEP);
+            }
+            if (nodes.size() + 1 == 41) {
+                add(p, TypedText.MANY);
+            }
+            if (excess) {
+                add(p, TypedText.RANGE);
+            }
+            if (faults.size() == before) {
+                typed(t.kind == SHARED && c != '{', inner, parent, name, depth);
+                return;
+            }
+        }
+        bare(c, depth);
+    }
+
+    private void bare(char c, int depth) {
+        if (c == '"') {
+            string(Integer.MAX_VALUE);
+        } else if (c == '[') {
+            list(UNTYPED, -1, depth);
+        } else if (c == '{') {
+            p++;
+            if (look() != '}') {
+                do {
+                    if (look() != '"') {
+                        syntax();
+                    }
+                    string(Integer.MAX_VALUE);
+                    want(':');
+                    value(UNTYPED, -1, -1, depth + 1, false);
+                } while (comma('}'));
+            } else {
+                p++;
+            }
+        } else if (beginsOf(NUM).indexOf(c) >= 0) {
+            number();
+        } else {
+            p++;
+        }
+    }
+
+    /** True behind a comma, false behind the end. */
+    private boolean comma(char end) {
+        char c = look();
+        if (c != ',' && c != end) {
+            syntax();
+        }
+        p++;
+        return c == ',';
+    }
+
+    private void typed(boolean reference, int slot, int parent, int name, int depth) {
+        Node n = new Node();
+        n.parent = parent;
+        n.name = name;
+        nodes.add(n);
+        int index = nodes.size() - 1;
+        Type t = types[slot];
+        char c = s.charAt(p);
+        if (c == 'n') {
+            n.kind = 5;
+            n.form = "n";
+            p++;
+        } else if (reference || t.kind == NUM) {
+            n.kind = reference ? 6 : 0;
+            String token = number();
+            BigInteger units = units(token, reference ? 0 : t.a);
+            long least = reference ? 0 : t.least;
+            long most = reference ? complete[slot] - 1 : t.most;
+            if (units == null || units.compareTo(BigInteger.valueOf(least)) < 0 || units.compareTo(BigInteger.valueOf(most)) > 0) {
+                add(p - 1, TypedText.RANGE);
+                units = BigInteger.ZERO;
+            }
+            n.value = units.intValue();
+            n.form = plain(n.value, reference ? 0 : t.a);
+        } else if (t.kind == TXT) {
+            n.kind = 1;
+            String chars = string(t.a);
+            for (char sign : chars.toCharArray()) {
+                n.value = n.value * 32 + Check.SIGNS.indexOf(sign);
+            }
+            n.form = "\"" + chars.replace("\\", "\\\\").replace("\"", "\\\"") + "\"";
+        } else if (t.kind == FLAG) {
+            n.kind = 2;
+            n.value = c == 't' ? 1 : 0;
+            n.form = "" + c;
+            p++;
+        } else if (t.kind == LIST) {
+            n.kind = 3;
+            n.isList = true;
+            n.value = list(slot, index, depth);
+        } else {
+            n.kind = 4;
+            members(slot, index, depth);
+        }
+    }
+
+    private static String plain(int units, int decimals) {
+        if (units == 0) {
+            return "0";
+        }
+        return BigDecimal.valueOf(units, decimals).stripTrailingZeros().toPlainString();
+    }
+
+    private static BigInteger units(String token, int decimals) {
+        int e = token.indexOf('e');
+        BigDecimal digits = new BigDecimal(e < 0 ? token : token.substring(0, e));
+        BigInteger power = e < 0 ? BigInteger.ZERO : new BigInteger(token.substring(e + 1));
+        if (digits.signum() == 0) {
+            return BigInteger.ZERO;
+        }
+        if (power.abs().compareTo(BigInteger.valueOf(500)) > 0) {
+            return null;
+        }
+        try {
+            return digits.scaleByPowerOfTen(power.intValue() + decimals).toBigIntegerExact();
+        } catch (ArithmeticException notWhole) {
+            return null;
+        }
+    }
+
+    /** The longest piece with which some number begins; the text is cut if it is none itself. */
+    private String number() {
+        int end = p;
+        while (end < s.length() && couldBeNumber(s.substring(p, end + 1))) {
+            end++;
+        }
+        String token = s.substring(p, end);
+        p = end;
+        if (!NUMBER.matcher(token).matches()) {
+            syntax();
+        }
+        return token;
+    }
+
+    private static boolean couldBeNumber(String piece) {
+        Matcher m = NUMBER.matcher(piece);
+        return m.matches() || m.hitEnd();
+    }
+
+    private String string(int most) {
+        StringBuilder all = new StringBuilder();
+        p++;
+        while (true) {
+            if (p >= s.length()) {
+                syntax();
+            }
+            char c = s.charAt(p);
+            if (c == '"') {
+                p++;
+                return all.toString();
+            }
+            if (c == '\\') {
+                p++;
+                if (p >= s.length() || s.charAt(p) != '"' && s.charAt(p) != '\\') {
+                    syntax();
+                }
+                c = s.charAt(p);
+            }
+            all.append(c);
+            if (all.length() == most + 1) {
+                add(p, TypedText.RANGE);
+            }
+            p++;
+        }
+    }
+
+    private int list(int slot, int index, int depth) {
+        Type t = slot == UNTYPED ? null : types[slot];
+        int count = 0;
+        p++;
+        if (look() == ']') {
+            p++;
+        } else {
+            do {
+                value(t == null ? UNTYPED : t.a, index, count, depth + 1, t != null && count >= t.most);
+                count++;
+            } while (comma(']'));
+        }
+        if (t != null && count < t.least) {
+            add(p - 1, TypedText.RANGE);
+        }
+        return count;
+    }
+
+    private void members(int slot, int index, int depth) {
+        Node n = nodes.get(index);
+        Type t = types[slot];
+        boolean choice = t.kind == CHOICE;
+        int fieldsOf = choice ? -1 : slot;
+        List<Integer> there = new ArrayList<>();
+        n.value = complete[slot];
+        p++;
+        if (look() == '}') {
+            if (choice) {
+                add(p, TypedText.NAME);
+            }
+            p++;
+        } else {
+            do {
+                if (look() != '"') {
+                    syntax();
+                }
+                String name = string(Integer.MAX_VALUE);
+                int quote = p - 1;
+                int letter = name.length() == 1 ? "ABCDEF".indexOf(name) : -1;
+                if (choice && n.tag < 0) {
+                    if (letter != t.a) {
+                        add(quote, TypedText.NAME);
+                    }
+                    there.add(t.a);
+                    want(':');
+                    fieldsOf = tag(n, t);
+                } else {
+                    int of = UNTYPED;
+                    for (int[] f : types[fieldsOf].fields) {
+                        of = f[0] == letter ? f[1] : of;
+                    }
+                    if (of == UNTYPED || there.contains(letter)) {
+                        add(quote, TypedText.NAME);
+                    }
+                    there.add(letter);
+                    want(':');
+                    value(of, index, letter, depth + 1, false);
+                }
+            } while (comma('}'));
+        }
+        close(n, slot, fieldsOf, there);
+    }
+
+    private int tag(Node n, Type t) {
+        char c = look();
+        if ("ntf-0123456789\"[{".indexOf(c) < 0) {
+            syntax();
+        }
+        if (beginsOf(NUM).indexOf(c) < 0) {
+            add(p, TypedText.TYPE);
+            throw new Cut();
+        }
+        BigInteger k = units(number(), 0);
+        boolean right = k != null && k.signum() >= 0 && k.compareTo(BigInteger.valueOf(5)) <= 0;
+        int of = right ? t.tags[k.intValue()] : -1;
+        if (of < 0 || types[of].kind != REC) {
+            add(p - 1, TypedText.RANGE);
+            throw new Cut();
+        }
+        n.tag = k.intValue();
+        n.choiceName = t.a;
+        n.value = of;
+        return of;
+    }
+
+    private void close(Node n, int slot, int fieldsOf, List<Integer> there) {
+        n.order = new ArrayList<>();
+        if (fieldsOf < 0) {
+            return;
+        }
+        boolean whole = true;
+        for (int[] f : types[fieldsOf].fields) {
+            n.order.add(f[0]);
+            whole &= f[2] == 0 || there.contains(f[0]);
+        }
+        if (!whole) {
+            add(p - 1, TypedText.MISSING);
+        } else if (n.tag < 0) {
+            complete[slot]++;
+        }
+    }
+
+    private String form(int index) {
+        Node n = nodes.get(index);
+        if (n.form != null) {
+            return n.form;
+        }
+        List<String> parts = new ArrayList<>();
+        if (n.tag >= 0) {
+            parts.add("\"" + "ABCDEF".charAt(n.choiceName) + "\":" + n.tag);
+        }
+        for (int k = 0; k < (n.isList ? n.value : n.order.size()); k++) {
+            int name = n.isList ? k : n.order.get(k);
+            for (int child = 0; child < nodes.size(); child++) {
+                if (nodes.get(child).parent == index && nodes.get(child).name == name) {
+                    parts.add((n.isList ? "" : "\"" + "ABCDEF".charAt(name) + "\":") + form(child));
+                }
+            }
+        }
+        return (n.isList ? "[" : "{") + String.join(",", parts) + (n.isList ? "]" : "}");
+    }
+}
