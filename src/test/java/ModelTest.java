@@ -63,10 +63,87 @@ public final class ModelTest {
             seen[new ModelTest(k).round()]++;
         }
         System.out.println("how often each code was due: " + Arrays.toString(seen));
+        allTexts();
         for (int code = 0; code < 9; code++) {
             Check.same("code " + code + " was due now and then", true, seen[code] > 0);
         }
         Check.end();
+    }
+
+    // ---- all short texts ----
+
+    /** Every text of so many pieces, bound to slots of types that can begin and end with them. */
+    private static void allTexts() {
+        ModelTest model = new ModelTest(0);
+        model.all(Check.SIGNS.split(""), 3, 0, 1, 2, 3, 4, 5, 6, 7, 8, 11);
+        model.all(new String[] {"-", "0", "1", "5", ".", "e", "+", " "}, 6, 0, 9);
+        model.all(new String[] {"\"", "\\", "A", " ", ","}, 7, 1);
+        model.all(new String[] {"{", "}", "[", "]", ",", "\"A\":", "\"B\":", "\"C\":", "1", "0", "n"}, 5, 4, 5, 6, 8, 10);
+        model.all(new String[] {"{}", "{},", "[", "]", ",", "0", "1", " "}, 6, 3, 8);
+    }
+
+    /** 0 number, 1 text, 2 flag, 3 list, 4 record, 5 choice, 6 possible, 7 shared, 8 list of 7, 9 number, 10 list of 6, 11 none. */
+    private TypedText fixedTypes() {
+        TypedText x = new TypedText();
+        for (int slot = 0; slot < 12; slot++) {
+            types[slot] = new Type();
+        }
+        x.simple(0, 0, 0, 0, 9);
+        fix(0, NUM, 0, 0, 9);
+        x.simple(1, 1, 1, 0, 0);
+        fix(1, TXT, 1, 0, 0);
+        x.simple(2, 2, 0, 0, 0);
+        fix(2, FLAG, 0, 0, 0);
+        x.list(3, 0, 1, 2);
+        fix(3, LIST, 0, 1, 2);
+        x.members(4, -1);
+        fix(4, REC, 0, 0, 0);
+        x.field(4, 0, 0, false);
+        x.field(4, 1, 6, false);
+        types[4].fields.add(new int[] {0, 0, 0});
+        types[4].fields.add(new int[] {1, 6, 0});
+        x.members(5, 0);
+        fix(5, CHOICE, 0, 0, 0);
+        x.tag(5, 1, 4);
+        types[5].tags[1] = 4;
+        x.wrap(6, 0, 4);
+        fix(6, POSS, 4, 0, 0);
+        x.wrap(7, 1, 4);
+        fix(7, SHARED, 4, 0, 0);
+        x.list(8, 7, 0, 3);
+        fix(8, LIST, 7, 0, 3);
+        x.simple(9, 0, 1, -50, 50);
+        fix(9, NUM, 1, -50, 50);
+        x.list(10, 6, 0, 1);
+        fix(10, LIST, 6, 0, 1);
+        return x;
+    }
+
+    private void fix(int slot, char kind, int a, int least, int most) {
+        types[slot].kind = kind;
+        types[slot].a = a;
+        types[slot].least = least;
+        types[slot].most = most;
+    }
+
+    private void all(String[] pieces, int most, int... slots) {
+        long count = 1;
+        for (int length = 0; length <= most; length++) {
+            for (long k = 0; k < count; k++) {
+                StringBuilder text = new StringBuilder();
+                long rest = k;
+                for (int piece = 0; piece < length; piece++) {
+                    text.append(pieces[(int) (rest % pieces.length)]);
+                    rest /= pieces.length;
+                }
+                TypedText x = fixedTypes();
+                write(x, text.toString());
+                for (int slot : slots) {
+                    compare(x, slot);
+                }
+            }
+            count *= pieces.length;
+        }
     }
 
     // ---- one round ----
@@ -78,10 +155,19 @@ public final class ModelTest {
         for (int k = 0; k < 5 && types[slot].kind == NO; k++) {
             slot = random.nextInt(12);
         }
-        s = makeText(slot);
+        write(x, makeText(slot));
+        return compare(x, slot);
+    }
+
+    private void write(TypedText x, String text) {
+        s = text;
+        x.wipe();
         for (char sign : s.toCharArray()) {
             x.put(Check.SIGNS.indexOf(sign));
         }
+    }
+
+    private int compare(TypedText x, int slot) {
         read(slot);
         int[] least = null;
         for (int[] fault : faults) {
@@ -89,15 +175,19 @@ public final class ModelTest {
                 least = fault;
             }
         }
-        String what = " of " + s + " in slot " + slot + " of " + told();
         int code = least == null ? 0 : least[1];
-        Check.same("bind" + what, code, x.bind(slot));
-        Check.same("place" + what, least == null ? -1 : least[0], x.place());
-        Check.same("nodes" + what, least == null ? told(nodes) : "", Check.nodesOf(x));
+        int place = least == null ? -1 : least[0];
         String print = least == null ? form(0) : "";
-        Check.same("print" + what, print.length(), x.print());
-        Check.same("printed" + what, print.substring(0, Math.min(192, print.length())), Check.printedOf(x));
+        String kept = print.substring(0, Math.min(192, print.length()));
+        String due = answers(code, place, least == null ? told(nodes) : "", print.length(), kept);
+        int gotCode = x.bind(slot);
+        String got = answers(gotCode, x.place(), Check.nodesOf(x), x.print(), Check.printedOf(x));
+        Check.same(due.equals(got) ? "" : s + " in slot " + slot + " of " + told(), due, got);
         return code;
+    }
+
+    private static String answers(int code, int place, String nodes, int length, String printed) {
+        return "code " + code + " place " + place + " nodes " + nodes + " print " + length + " " + printed;
     }
 
     private String told() {
@@ -365,6 +455,10 @@ public final class ModelTest {
     // ---- the second reading ----
 
     private void read(int slot) {
+        p = 0;
+        faults.clear();
+        nodes.clear();
+        Arrays.fill(complete, 0);
         try {
             value(slot, -1, -1, 0, false);
             skip();
