@@ -14,6 +14,7 @@ public final class AnswerBoundsTest {
         bindSlots();
         bindNoSlot();
         bindAgain();
+        bindAfterFault();
         placeOfLatest();
         placeMost();
         placeStays();
@@ -26,6 +27,7 @@ public final class AnswerBoundsTest {
         printFieldsThere();
         printTagFirst();
         printNumbers();
+        printReferences();
         printNoE();
         printTexts();
         printNothingBound();
@@ -106,6 +108,42 @@ public final class AnswerBoundsTest {
             Check.same("print", codes[k] == 0 ? 7 : 0, x.print());
         }
         Check.same("the text is still there", 7, x.wipe());
+    }
+
+    private static void bindAfterFault() {
+        Check.sentence("Binds the text to the type in a slot: OK or the fault.");
+        // Whatever the fault was and wherever the text was left, the next bind answers as that of a new object.
+        String[] left = {"", "-", "1.", "1e", "1e-", "'", "'\\", "'A", "'A\\A", "[", "[1", "[1,", "[t", "[100", "{", "{'", "{'\\", "{'B'",
+            "{'B':", "{'B':1", "{'B':1,", "{'C'", "{}", "{'B':100", "{'D'", "{'D':", "{'D':4", "{'D':9", "{'D':4,'B':1",
+            "[{'B':1}", "[{'B':1},{'B':1},", "[{'B':1},{'B'", "[[[[[[[", "}"};
+        String[] next = {"1", "-1.5e0", "'A'", "'\\\\'", "t", "[]", "[1,2]", "{'B':1}", "{'A':'','B':1}", "{'D':4,'B':1}", "n",
+            "[{'B':1},0]", "[[]]", "0", "[0]", "{'D':4}", "{}", "'", ""};
+        for (String one : left) {
+            for (int slot = 0; slot < 10; slot++) {
+                for (String two : next) {
+                    TypedText x = types9();
+                    Check.write(x, one);
+                    x.bind(slot);
+                    Check.same(two + " after " + one + " in slot " + slot, answers(types9(), two), answers(x, two));
+                }
+            }
+        }
+    }
+
+    private static TypedText types9() {
+        TypedText x = types();
+        x.list(9, 9, 0, 9);
+        return x;
+    }
+
+    private static String answers(TypedText x, String text) {
+        StringBuilder all = new StringBuilder();
+        Check.write(x, text);
+        for (int slot = 0; slot < 10; slot++) {
+            all.append(x.bind(slot)).append(" at ").append(x.place()).append(' ').append(Check.nodesOf(x));
+            all.append(x.print()).append(' ').append(Check.printedOf(x)).append("; ");
+        }
+        return all.toString();
     }
 
     // ---- promise 11 ----
@@ -250,6 +288,11 @@ public final class AnswerBoundsTest {
         Check.prints(types(), 2, "  t  ", "t");
         Check.prints(types(), 6, "  n  ", "n");
         Check.prints(types(), 8, "[ { 'B' : 1 } , 0 ]", "[{'B':1},0]");
+        // As many lists as a text of 96 has room for.
+        TypedText x = types();
+        x.list(9, 9, 0, 20);
+        String lists = "[[[[[[]]]]],[[],[],[],[],[],[],[],[],[],[]],[[],[],[],[],[],[],[],[]],[[[[],[]]]],[],[],[]]";
+        Check.prints(x, 9, lists, lists);
     }
 
     private static void orders(List<Integer> done, List<Integer> left, List<List<Integer>> all) {
@@ -293,6 +336,16 @@ public final class AnswerBoundsTest {
                 Check.prints(added(order), 1, record(given), record(order));
             }
         }
+        // Records of two sorts at one depth, each in its own order.
+        TypedText x = added(List.of(5, 0));
+        x.members(2, -1);
+        x.field(2, 0, 0, false);
+        x.field(2, 5, 0, false);
+        x.members(3, -1);
+        x.field(3, 3, 1, false);
+        x.field(3, 1, 2, false);
+        Check.prints(x, 3, "{'B':{'A':0,'F':5},'D':{'A':0,'F':5}}", "{'D':{'F':5,'A':0},'B':{'A':0,'F':5}}");
+        Check.prints(x, 3, "{'D':{'F':5,'A':0},'B':{'F':5,'A':0}}", "{'D':{'F':5,'A':0},'B':{'A':0,'F':5}}");
     }
 
     private static void printFieldsThere() {
@@ -355,6 +408,16 @@ public final class AnswerBoundsTest {
     private static int rebound(TypedText x, String text) {
         Check.write(x, text);
         return x.bind(0);
+    }
+
+    private static void printReferences() {
+        Check.sentence("numbers as digits without zeros in front");
+        TypedText x = types();
+        x.members(4, -1);
+        Check.prints(x, 8, "[{},{},{},0,1,2,2.0,10e-1,-0]", "[{},{},{},0,1,2,2,1,0]");
+        String eleven = "[{}" + ",{}".repeat(10);
+        Check.prints(x, 8, eleven + ",9,10]", eleven + ",9,10]");
+        Check.prints(x, 8, eleven + ",1e1,100e-1]", eleven + ",10,10]");
     }
 
     private static void printNoE() {

@@ -94,7 +94,7 @@ public final class CallBoundsTest {
 
     // ---- ranges of arguments ----
 
-    /** Taken for slot at least and most; refused outside, for every slot. */
+    /** Taken for the slot from least to most; refused just outside and far off, whatever the slot. */
     private static void range(String what, int slot, int least, int most, Call call) {
         for (int value = least; value <= most; value++) {
             int good = value;

@@ -499,8 +499,15 @@ public final class TypeBoundsTest {
         x.field(9, 1, 10, false);
         x.members(10, -1);
         Check.nodes(x, 9, "{'A':{},'B':{}}", "4/0/-1/-1 4/0/0/0 4/0/0/1");
-        Check.same("bind again", TypedText.OK, x.bind(9));
-        Check.same("nodes again", "4/0/-1/-1 4/0/0/0 4/0/0/1", Check.nodesOf(x));
+        for (int slot = 0; slot < 12; slot++) {
+            x = new TypedText();
+            x.members(slot, -1);
+            x.list(slot == 0 ? 1 : 0, slot, 0, 9);
+            Check.nodes(x, slot == 0 ? 1 : 0, "[{},{}]", "3/2/-1/-1 4/0/0/0 4/1/0/1");
+            Check.same("bind again", TypedText.OK, x.bind(slot == 0 ? 1 : 0));
+            Check.same("nodes again", "3/2/-1/-1 4/0/0/0 4/1/0/1", Check.nodesOf(x));
+            Check.nodes(x, slot, "{}", "4/0/-1/-1");
+        }
     }
 
     private static void recordsComplete() {
