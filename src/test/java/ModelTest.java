@@ -8,12 +8,15 @@ import java.util.regex.Matcher;
 import java.util.regex.Pattern;
 
 /**
- * Promises 10 to 15 on made-up types and texts, against a second reading of the document in another manner:
- * it descends through the text, gathers every fault that it meets, and takes the least of them at the end.
- * The made-up ones are the same in every run.
+ * Promises 1 to 16 on made-up types, texts and runs of calls, against a second reading of the document in
+ * another manner: it descends through the text, gathers every fault that it meets, and takes the least of them
+ * at the end. The made-up ones are the same each time.
  */
 public final class ModelTest {
     private static final int ROUNDS = 60000;
+    private static final int RUNS = 3000;
+    // The document promises nothing about an object behind this one.
+    private static final int CALLS = 512;
     private static final int UNTYPED = -2;
     private static final Pattern NUMBER = Pattern.compile("-?(0|[1-9][0-9]*)(\\.[0-9]+)?(e[-+]?[0-9]+)?");
 
@@ -44,6 +47,8 @@ public final class ModelTest {
         private static final long serialVersionUID = 1L;
     }
 
+    private static final int[] DUE_IN_RUNS = new int[9];
+
     private final Random random;
     private final Type[] types = new Type[12];
     private String s = "";
@@ -51,6 +56,14 @@ public final class ModelTest {
     private final List<int[]> faults = new ArrayList<>();
     private final List<Node> nodes = new ArrayList<>();
     private final int[] complete = new int[12];
+
+    // What a run of calls has left behind.
+    private TypedText object;
+    private int calls = 0;
+    private final StringBuilder told = new StringBuilder();
+    private boolean bound = false;
+    private int place = -1;
+    private String printed = "";
 
     private ModelTest(long seed) {
         random = new Random(seed);
@@ -64,8 +77,13 @@ public final class ModelTest {
         }
         System.out.println("how often each code was due: " + Arrays.toString(seen));
         allTexts();
+        for (int k = 0; k < RUNS; k++) {
+            new ModelTest(k).run();
+        }
+        System.out.println("in the runs: " + Arrays.toString(DUE_IN_RUNS));
         for (int code = 0; code < 9; code++) {
             Check.same("code " + code + " was due now and then", true, seen[code] > 0);
+            Check.same("code " + code + " was due now and then in the runs", true, DUE_IN_RUNS[code] > 0);
         }
         Check.end();
     }
@@ -146,6 +164,234 @@ public final class ModelTest {
         }
     }
 
+    // ---- runs of all calls in any order ----
+
+    private void run() {
+        object = new TypedText();
+        for (int slot = 0; slot < 12; slot++) {
+            types[slot] = new Type();
+        }
+        while (calls < CALLS) {
+            int kind = random.nextInt(100);
+            if (kind < 40) {
+                typeCall();
+            } else if (kind < 50) {
+                putCall(edge(0, 31));
+            } else if (kind < 51) {
+                wipeCall();
+            } else if (kind < 56) {
+                writeCalls();
+            } else if (kind < 70) {
+                bindCall(edge(0, 11));
+            } else {
+                askCall();
+            }
+        }
+    }
+
+    /** Mostly one of low to high, else one beside them or far away. */
+    private int edge(int low, int high) {
+        int[] outside = {low - 1, high + 1, Integer.MIN_VALUE, Integer.MAX_VALUE, -2, 64};
+        int inside = low + random.nextInt(high - low + 1);
+        switch (random.nextInt(12)) {
+            case 0:
+                return outside[random.nextInt(outside.length)];
+            case 1:
+                return random.nextBoolean() ? low : high;
+            default:
+                return inside;
+        }
+    }
+
+    private static boolean within(int k, int low, int high) {
+        return k >= low && k <= high;
+    }
+
+    /** Calls behind the last one that counts are made, but not looked at. */
+    private void due(String call, Object want, Object got) {
+        calls++;
+        told.append(' ').append(call);
+        if (calls <= CALLS) {
+            Check.same(want.equals(got) ? "" : "the last of" + told, want, got);
+        }
+    }
+
+    private void putCall(int c) {
+        boolean right = within(c, 0, 31) && s.length() < 96;
+        due("put(" + c + ")", right, object.put(c));
+        if (right) {
+            s += Check.SIGNS.charAt(c);
+            bound = false;
+        }
+    }
+
+    private void wipeCall() {
+        due("wipe()", s.length(), object.wipe());
+        s = "";
+        bound = false;
+    }
+
+    /** A text for one of the types, bound to it at once. */
+    private void writeCalls() {
+        int slot = random.nextInt(12);
+        wipeCall();
+        for (char sign : makeText(slot).toCharArray()) {
+            putCall(Check.SIGNS.indexOf(sign));
+        }
+        bindCall(slot);
+    }
+
+    private void bindCall(int slot) {
+        int code = TypedText.UNDEFINED;
+        place = 0;
+        if (within(slot, 0, 11)) {
+            read(slot);
+            int[] least = leastFault();
+            code = least == null ? TypedText.OK : least[1];
+            place = least == null ? -1 : least[0];
+        }
+        DUE_IN_RUNS[code]++;
+        bound = code == TypedText.OK;
+        due("bind(" + slot + ")", code, object.bind(slot));
+    }
+
+    private void askCall() {
+        switch (random.nextInt(5)) {
+            case 0:
+                due("place()", place, object.place());
+                break;
+            case 1:
+                due("nodes()", bound ? nodes.size() : 0, object.nodes());
+                break;
+            case 2:
+                askNode(edge(0, bound ? nodes.size() - 1 : 39), edge(0, 3));
+                break;
+            case 3:
+                printed = bound ? form(0) : "";
+                due("print()", printed.length(), object.print());
+                break;
+            default:
+                int k = edge(0, Math.max(1, printed.length()) - 1);
+                boolean there = within(k, 0, Math.min(192, printed.length()) - 1);
+                due("printed(" + k + ")", there ? Check.SIGNS.indexOf(printed.charAt(k)) : -1, object.printed(k));
+                break;
+        }
+    }
+
+    private void askNode(int k, int what) {
+        int want = -1;
+        if (bound && within(k, 0, nodes.size() - 1) && within(what, 0, 3)) {
+            Node n = nodes.get(k);
+            want = new int[] {n.kind, n.value, n.parent, n.name}[what];
+        }
+        due("node(" + k + ", " + what + ")", want, object.node(k, what));
+    }
+
+    private void typeCall() {
+        boolean right;
+        int slot = edge(0, 11);
+        switch (random.nextInt(8)) {
+            case 0:
+                right = simpleCall(slot, edge(0, 2));
+                break;
+            case 1:
+                right = listCall(slot, edge(0, 11), edge(0, 3), edge(0, 20));
+                break;
+            case 2:
+                right = membersCall(slot, random.nextBoolean() ? -1 : edge(-1, 5));
+                break;
+            case 3:
+                right = wrapCall(slot, edge(0, 1), edge(0, 11));
+                break;
+            case 4:
+                right = tagCall(mostly(CHOICE, slot), edge(0, 5), mostly(REC, edge(0, 11)));
+                break;
+            default:
+                right = fieldCall(mostly(REC, slot), edge(0, 5), edge(0, 11), random.nextInt(4) == 0);
+                break;
+        }
+        bound &= !right;
+    }
+
+    /** Mostly a slot with a type of this kind, if there is one. */
+    private int mostly(char kind, int slot) {
+        int start = random.nextInt(12);
+        for (int k = 0; k < 12 && random.nextInt(60) > 0; k++) {
+            if (types[(start + k) % 12].kind == kind) {
+                return (start + k) % 12;
+            }
+        }
+        return slot;
+    }
+
+    private boolean simpleCall(int slot, int what) {
+        int a = what == 1 ? edge(0, 40) : edge(0, 4);
+        int b = edge(-200, 100);
+        int c = edge(0, 200);
+        boolean right = within(slot, 0, 11) && (what == 0 && within(a, 0, 4) && b <= c || what == 1 && within(a, 0, 40) || what == 2);
+        due("simple(" + slot + ", " + what + ", " + a + ", " + b + ", " + c + ")", right, object.simple(slot, what, a, b, c));
+        if (right) {
+            types[slot] = new Type();
+            // The flag's and the text's numbers may be any; the makers of texts want them small.
+            fix(slot, what == 0 ? NUM : what == 1 ? TXT : FLAG, what == 2 ? 0 : a, what == 0 ? b : 0, what == 0 ? c : 0);
+        }
+        return right;
+    }
+
+    private boolean listCall(int slot, int of, int least, int most) {
+        boolean right = within(slot, 0, 11) && within(of, 0, 11) && 0 <= least && least <= most && most <= 20;
+        due("list(" + slot + ", " + of + ", " + least + ", " + most + ")", right, object.list(slot, of, least, most));
+        if (right) {
+            types[slot] = new Type();
+            fix(slot, LIST, of, least, most);
+        }
+        return right;
+    }
+
+    private boolean membersCall(int slot, int name) {
+        boolean right = within(slot, 0, 11) && within(name, -1, 5);
+        due("members(" + slot + ", " + name + ")", right, object.members(slot, name));
+        if (right) {
+            types[slot] = new Type();
+            fix(slot, name < 0 ? REC : CHOICE, Math.max(0, name), 0, 0);
+        }
+        return right;
+    }
+
+    private boolean fieldCall(int slot, int name, int of, boolean needed) {
+        boolean right = within(slot, 0, 11) && within(name, 0, 5) && within(of, 0, 11)
+                && types[slot].kind == REC && types[slot].fields.size() < 4;
+        if (right) {
+            for (int[] f : types[slot].fields) {
+                right &= f[0] != name;
+            }
+        }
+        due("field(" + slot + ", " + name + ", " + of + ", " + needed + ")", right, object.field(slot, name, of, needed));
+        if (right) {
+            types[slot].fields.add(new int[] {name, of, needed ? 1 : 0});
+        }
+        return right;
+    }
+
+    private boolean tagCall(int slot, int tag, int of) {
+        boolean right = within(slot, 0, 11) && within(tag, 0, 5) && within(of, 0, 11) && types[slot].kind == CHOICE;
+        due("tag(" + slot + ", " + tag + ", " + of + ")", right, object.tag(slot, tag, of));
+        if (right) {
+            types[slot].tags[tag] = of;
+        }
+        return right;
+    }
+
+    private boolean wrapCall(int slot, int how, int of) {
+        boolean right = within(slot, 0, 11) && within(how, 0, 1) && within(of, 0, 11);
+        due("wrap(" + slot + ", " + how + ", " + of + ")", right, object.wrap(slot, how, of));
+        if (right) {
+            types[slot] = new Type();
+            fix(slot, how == 0 ? POSS : SHARED, of, 0, 0);
+        }
+        return right;
+    }
+
     // ---- one round ----
 
     private int round() {
@@ -167,14 +413,19 @@ public final class ModelTest {
         }
     }
 
-    private int compare(TypedText x, int slot) {
-        read(slot);
+    private int[] leastFault() {
         int[] least = null;
         for (int[] fault : faults) {
             if (least == null || fault[0] < least[0] || fault[0] == least[0] && fault[1] < least[1]) {
                 least = fault;
             }
         }
+        return least;
+    }
+
+    private int compare(TypedText x, int slot) {
+        read(slot);
+        int[] least = leastFault();
         int code = least == null ? 0 : least[1];
         int place = least == null ? -1 : least[0];
         String print = least == null ? form(0) : "";
@@ -349,9 +600,9 @@ public final class ModelTest {
             case CHOICE:
                 return makeChoice(t, level);
             case POSS:
-                return random.nextInt(level > 2 ? 2 : 4) == 0 ? "n" : makeBare(t.a, level + 1);
+                return random.nextInt(level > 2 ? 2 : 4) == 0 ? "n" : makeBare(t.a % 12, level + 1);
             case SHARED:
-                return random.nextInt(2) == 0 ? makeSmall(random.nextInt(3)) : makeBare(t.a, level + 1);
+                return random.nextInt(2) == 0 ? makeSmall(random.nextInt(3)) : makeBare(t.a % 12, level + 1);
             default:
                 return "ntf1[{".substring(random.nextInt(6)).substring(0, 1);
         }
